@@ -1,3 +1,4 @@
+import java.util.Arrays;
 import java.util.NoSuchElementException;
 
 /**
@@ -62,9 +63,7 @@ public final class CaptureBench {
         spareLayer = new Layer();
         layerReader = new LayerReader();
         roots = new int[LINKS];
-        for (int k = 0; k < LINKS; k++) {
-            roots[k] = NONE;
-        }
+        Arrays.fill(roots, NONE);
         frames = new Frame[FRAMES];
         for (int k = 0; k < FRAMES; k++) {
             frames[k] = new Frame();
@@ -469,7 +468,6 @@ public final class CaptureBench {
             chooser = NONE;
             for (int k = 0; k < FIELD_NAMES; k++) {
                 widths[k] = 0;
-                swapped[k] = false;
             }
         }
 
@@ -540,7 +538,8 @@ public final class CaptureBench {
 
         private boolean readOuter(int depth) {
             int outer = target.size;
-            boolean good = cursor.take('#') ? readCount(Layer.GROUP) : readCondition();
+            boolean good = cursor.take('#') ? readCount(Layer.GROUP)
+                    : cursor.take('?') && readCondition();
             if (!good || !cursor.take('(') || !readItems(depth + 1) || !cursor.take(')')) {
                 return false;
             }
@@ -557,9 +556,6 @@ public final class CaptureBench {
         }
 
         private boolean readCondition() {
-            if (!cursor.take('?')) {
-                return false;
-            }
             int name = takeKnownName();
             if (name == NONE) {
                 return false;
@@ -910,8 +906,8 @@ public final class CaptureBench {
                 case Layer.FIXED_FIELD:
                     return value == layer.numbers[k] ? GOOD : UNEQUAL;
                 case Layer.SUM_FIELD:
-                    long sum = frame.sumBetween(begin, place) & ((1L << width) - 1);
-                    return value == sum ? GOOD : WRONG_SUM;
+                    return value == (frame.sumBetween(begin, place) & ((1L << width) - 1))
+                            ? GOOD : WRONG_SUM;
                 default:
                     return GOOD;
             }
@@ -1077,9 +1073,7 @@ public final class CaptureBench {
 
         void clear() {
             size = 0;
-            for (int k = 0; k < FRAMES; k++) {
-                sameWayAs[k] = NONE;
-            }
+            Arrays.fill(sameWayAs, NONE);
         }
 
         boolean has(int k) {
@@ -1140,17 +1134,13 @@ public final class CaptureBench {
         long distance;
 
         Joined() {
-            for (int k = 0; k < JOINED_BYTES; k++) {
-                bytes[k] = NONE;
-            }
+            Arrays.fill(bytes, NONE);
         }
 
         void clear() {
             count = 0;
             begun = false;
-            for (int k = 0; k < JOINED_BYTES; k++) {
-                bytes[k] = NONE;
-            }
+            Arrays.fill(bytes, NONE);
         }
 
         /** Tells where the next block's first byte is put. */

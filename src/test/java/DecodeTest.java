@@ -11,6 +11,7 @@ public final class DecodeTest {
         blocksTooShort();
         groups();
         options();
+        threeDeep();
         valuesAreOfThisRun();
         chooserMustBeEntered();
         limitEndsFields();
@@ -93,6 +94,10 @@ public final class DecodeTest {
         // The second byte is not whole before the field.
         bench = decoded("a8b4c4!", 0x13, 0xF3);
         dueEntry(bench, 2, facts(2, 12, 4, 0), 3);
+        bench = decoded("a8b7c1!", 0x13, 0xF1);
+        dueEntry(bench, 2, facts(2, 15, 1, 0), 1);
+        bench = decoded("a8b8c1!", 0x13, 0xF1, 0);
+        dueEntry(bench, 2, facts(2, 16, 1, 0), 0);
         bench = decoded("a8b32c32!", 1, 255, 255, 255, 255, 0, 0, 3, 0xFD);
         dueEntry(bench, 2, facts(2, 40, 32, 0), 0x3FD);
     }
@@ -181,6 +186,20 @@ public final class DecodeTest {
         Checks.due("behind the outer one", bench.entry(0, 3, 1), 4);
     }
 
+    private static void threeDeep() {
+        CaptureBench bench = decoded("a8#a(#a(#a(b8)c8)d8)e8", 2, 1, 2, 3, 4, 5, 6, 7, 8, 9, 10, 11,
+                12, 13, 14, 15);
+        int[] names = {0, 1, 1, 2, 1, 1, 2, 3, 1, 1, 2, 1, 1, 2, 3, 4};
+        Checks.due("groups", bench.decode(0), names.length);
+        for (int k = 0; k < names.length; k++) {
+            dueEntry(bench, k, facts(names[k], 8 * k, 8, 0), k == 0 ? 2 : k);
+        }
+        bench = decoded("a8?a=1(?a<2(?a=1(b8)c8)d8)e8", 1, 2, 3, 4, 5);
+        Checks.due("options", bench.decode(0), 5);
+        bench = decoded("a8?a=1(#a(?a=0(b8)c8)d8)e8", 1, 2, 3, 4, 5);
+        Checks.due("groups and options", bench.decode(0), 4);
+    }
+
     private static void valuesAreOfThisRun() {
         CaptureBench bench = decoded("#*(a8?a=1(b8))?b=0(c1)$b", 1, 5, 0, 1, 2, 0);
         // The latest b is 2, for which no byte is left.
@@ -194,6 +213,9 @@ public final class DecodeTest {
         bench = decoded("a8?a=1(b8)$b>a", 1, 1, 77, 2, 88);
         bench.follow(0, 1, 0);
         Checks.due("another run of the same layer", bench.decode(0), 5);
+        dueEntry(bench, 4, facts(8, 32, 0, 0), 0);
+        bench = decoded("h8?h=1(a8)$a>h", 1, 1, 77, 2, 88);
+        bench.follow(0, 1, 0);
         dueEntry(bench, 4, facts(8, 32, 0, 0), 0);
         bench = decoded("a8b8!$*>a", 3, 3);
         Checks.describe(bench, 1, "a8");
@@ -217,6 +239,12 @@ public final class DecodeTest {
         Checks.due("decoding was over before", bench.decode(0), 2);
         Checks.describe(bench, 0, "a8b8!>b");
         Checks.due("a field with a wrong sum was entered", bench.decode(0), 3);
+        // In the second run b is not entered, and its value 0 must not choose.
+        bench = decoded("a8?a=1(b8)>b", 1, 5, 2, 9);
+        Checks.describe(bench, 1, "c8");
+        bench.follow(0, 5, 0);
+        bench.follow(0, 0, 1);
+        Checks.due("entered in another run alone", bench.decode(0), 3);
     }
 
     private static void limitEndsFields() {

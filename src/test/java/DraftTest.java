@@ -31,7 +31,19 @@ public final class DraftTest {
             bench.root(0, layer);
             Checks.due("layers are not described", bench.decode(0), 0);
         }
+        noRootsOfDescribedLayers();
         limitIs64();
+    }
+
+    private static void noRootsOfDescribedLayers() {
+        CaptureBench bench = new CaptureBench();
+        for (int layer = 0; layer < 4; layer++) {
+            Checks.describe(bench, layer, "a8");
+        }
+        Checks.addFrame(bench, 0, 0, 1);
+        Checks.addFrame(bench, 1, 1, 1);
+        Checks.due("no root: link 0", bench.decode(0), 0);
+        Checks.due("no root: link 1", bench.decode(1), 0);
     }
 
     private static void limitIs64() {

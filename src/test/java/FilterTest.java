@@ -283,6 +283,10 @@ public final class FilterTest {
         Checks.makeFilter(bench, 0, "!0a");
         bench.root(0, -1);
         Checks.due("a frame without entries", bench.next(0, 2), 2);
+        Checks.due("the last frame", bench.next(0, 5), 5);
+        Checks.due("behind the last frame", bench.next(0, 6), -1);
+        bench.drop(3);
+        Checks.due("a frame that was dropped", bench.next(0, 5), -1);
     }
 
     private static void wrongNexts() {

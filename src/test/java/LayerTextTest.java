@@ -113,6 +113,8 @@ public final class LayerTextTest {
         place("?a=1(a8)", 1);
         place("a8?b=1(c8)", 3);
         place("a8?*=1(c8)", 3);
+        place("a8?(c8)", 3);
+        place("a8#(c8)", 3);
         place("a8>b", 3);
         place("a8>*", 3);
         place("$*>a", 3);
@@ -218,6 +220,12 @@ public final class LayerTextTest {
         Checks.due("with <", bench.value(0, 0), 0x201);
         Checks.describe(bench, 0, "a16");
         Checks.due("no < any more", bench.value(0, 0), 0x102);
+        Checks.describe(bench, 0, "a2?a=3(b2c2)d2");
+        Checks.describe(bench, 0, "a2#a(b2$*c2)d2");
+        Checks.describe(bench, 0, "a1b1c1d1e1f1g1h1");
+        Checks.due("no option any more", bench.decode(0), 8);
+        Checks.describe(bench, 0, "a1b1c1d1e1f1g1");
+        Checks.due("no group any more", bench.decode(0), 7);
     }
 
     private static void wrongLayers() {

@@ -8,6 +8,7 @@ public final class RootFollowTest {
         followersAreByLayer();
         layersMayFollowThemselves();
         eightValues();
+        removedValuesLeaveTheOthers();
         wrongFollowers();
         Checks.end();
     }
@@ -120,6 +121,22 @@ public final class RootFollowTest {
             Checks.addFrame(bench, 0, 9, value, 1);
             Checks.due("followed by " + value, bench.decode(1), value == 3 ? 1 : 2);
         }
+    }
+
+    private static void removedValuesLeaveTheOthers() {
+        CaptureBench bench = Checks.benchWith("a8>a");
+        for (int layer = 1; layer < 4; layer++) {
+            Checks.describe(bench, layer, "b8");
+            bench.follow(0, 10 * layer, layer);
+            Checks.addFrame(bench, 0, layer, 10 * layer, 1);
+        }
+        bench.follow(0, 10, -1);
+        Checks.due("the removed one", bench.decode(0), 1);
+        Checks.due("the second one", bench.entry(1, 1, 0), 2);
+        Checks.due("the third one", bench.entry(2, 1, 0), 3);
+        bench.follow(0, 30, -1);
+        Checks.due("the second one stays", bench.entry(1, 1, 0), 2);
+        Checks.due("the third one is removed", bench.decode(2), 1);
     }
 
     private static void wrongFollowers() {

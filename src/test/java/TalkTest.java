@@ -10,6 +10,7 @@ public final class TalkTest {
         talksStay();
         wrongTalks();
         streamJoins();
+        streamTakesNoFramesOfOlderTalks();
         streamKeepsWhatIsThere();
         streamCountsModuloTheWidth();
         streamTakesFirstBlocks();
@@ -198,6 +199,17 @@ public final class TalkTest {
         Checks.due("stream by no such field", bench.stream(0, 0, 7), 0);
         dueStreamed(bench, 0, -1, -1);
         Checks.due("stream by another layer", bench.stream(0, 1, 2), 0);
+    }
+
+    private static void streamTakesNoFramesOfOlderTalks() {
+        CaptureBench bench = Checks.benchWith("a8b8?a=2(c8)$*");
+        Checks.addFrame(bench, 0, 0, 1, 0, 'x');
+        Checks.addFrame(bench, 0, 1, 2, 0, 5, 'y', 'z');
+        Checks.due("talks that both have", bench.talks(0, 1, 0, 1), 1);
+        Checks.due("stream of both", bench.stream(0, 0, 1), 2);
+        Checks.due("talks that the second alone has", bench.talks(0, 2, 0, 2), 1);
+        Checks.due("stream of the second", bench.stream(0, 0, 1), 2);
+        dueStreamed(bench, 0, 'y', 'z', -1);
     }
 
     private static void streamKeepsWhatIsThere() {
