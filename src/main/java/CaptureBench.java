@@ -37,9 +37,7 @@ public final class CaptureBench {
     private static final int LIMIT_REACHED = 4;
 
     private final Text draft;
-    private final Layer[] layers;
     private final LayerReader layerReader;
-    private final Followers[] followers;
     private final int[] roots;
     private final Frame[] frames;
     private final Decoder decoder;
@@ -54,12 +52,6 @@ public final class CaptureBench {
 
     public CaptureBench() {
         draft = new Text();
-        layers = new Layer[LAYERS];
-        followers = new Followers[LAYERS];
-        for (int k = 0; k < LAYERS; k++) {
-            layers[k] = new Layer();
-            followers[k] = new Followers();
-        }
         spareLayer = new Layer();
         layerReader = new LayerReader();
         roots = new int[LINKS];
@@ -69,7 +61,7 @@ public final class CaptureBench {
             frames[k] = new Frame();
         }
         stepLimit = MOST_STEPS;
-        decoder = new Decoder(layers, followers);
+        decoder = new Decoder();
         decodedFrame = NONE;
         filters = new Text[FILTERS];
         for (int k = 0; k < FILTERS; k++) {
@@ -108,8 +100,8 @@ public final class CaptureBench {
         if (wrongPlace != NONE) {
             return wrongPlace;
         }
-        Layer replaced = layers[layer];
-        layers[layer] = spareLayer;
+        Layer replaced = decoder.layers[layer];
+        decoder.layers[layer] = spareLayer;
         spareLayer = replaced;
         draft.size = 0;
         forgetDecoded();
@@ -129,7 +121,7 @@ public final class CaptureBench {
         if (!isLayer(layer) || value < 0 || !isLayerOrNone(next)) {
             throw new IllegalArgumentException();
         }
-        if (!followers[layer].set(value, next)) {
+        if (!decoder.followers[layer].set(value, next)) {
             throw new IllegalStateException();
         }
         forgetDecoded();
@@ -311,7 +303,7 @@ public final class CaptureBench {
                 int field = entries.first(layer, name);
                 int block = entries.first(layer, BLOCK);
                 if (field != NONE && block != NONE) {
-                    joined.begin(entries.values[field], layers[layer].widths[name]);
+                    joined.begin(entries.values[field], decoder.layers[layer].widths[name]);
                     joined.put(frames[f], entries.fact(block, Entries.FIRST_BIT),
                             entries.values[block]);
                 }
@@ -466,9 +458,7 @@ public final class CaptureBench {
         void clear() {
             size = 0;
             chooser = NONE;
-            for (int k = 0; k < FIELD_NAMES; k++) {
-                widths[k] = 0;
-            }
+            Arrays.fill(widths, 0);
         }
 
         boolean isDescribed() {
@@ -752,8 +742,8 @@ public final class CaptureBench {
     /** Decodes one frame at a time; its methods are false when decoding is over. */
     private static final class Decoder {
         final Entries entries = new Entries();
-        final Layer[] layers;
-        final Followers[] followers;
+        final Layer[] layers = new Layer[LAYERS];
+        final Followers[] followers = new Followers[LAYERS];
         final long[] latest = new long[FIELD_NAMES];
         final boolean[] entered = new boolean[FIELD_NAMES];
         Frame frame;
@@ -764,9 +754,11 @@ public final class CaptureBench {
         int steps;
         int stepLimit;
 
-        Decoder(Layer[] allLayers, Followers[] allFollowers) {
-            layers = allLayers;
-            followers = allFollowers;
+        Decoder() {
+            for (int k = 0; k < LAYERS; k++) {
+                layers[k] = new Layer();
+                followers[k] = new Followers();
+            }
         }
 
         void run(Frame decoded, int root, int limit) {
@@ -924,7 +916,8 @@ public final class CaptureBench {
 
     /**
      * Reads a text as a filter and finds, while it reads, whether that is true for some entries, so
-     * that the grammar stands in one place. Each method is false at the character that cannot stand.
+     * that the grammar stands in one place; each method is false at the character that cannot
+     * stand.
      */
     private static final class FilterReader {
         static final int DEEPEST = 8;
@@ -964,7 +957,7 @@ public final class CaptureBench {
                 if (!readTerm(depth)) {
                     return false;
                 }
-                any |= truth;
+                any = any || truth;
             }
             truth = any;
             return true;
@@ -979,7 +972,7 @@ public final class CaptureBench {
                 if (!readFactor(depth)) {
                     return false;
                 }
-                all &= truth;
+                all = all && truth;
             }
             truth = all;
             return true;

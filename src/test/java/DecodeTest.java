@@ -37,7 +37,8 @@ public final class DecodeTest {
     }
 
     private static void fieldsTakeBits() {
-        CaptureBench bench = decoded("a1b7c12d32e12", 0x85, 0xAB, 0xCD, 0xEF, 0x01, 0x23, 0x45, 0x67);
+        CaptureBench bench = decoded("a1b7c12d32e12",
+                0x85, 0xAB, 0xCD, 0xEF, 0x01, 0x23, 0x45, 0x67);
         Checks.due("decode(0)", bench.decode(0), 5);
         dueEntry(bench, 0, facts(0, 0, 1, 0), 1);
         dueEntry(bench, 1, facts(1, 1, 7, 0), 5);

@@ -2,7 +2,7 @@ import java.util.NoSuchElementException;
 import java.util.Random;
 
 /**
- * Runs of 512 calls with any arguments: each throws only what the document names for it, and the same
+ * Runs of calls with any arguments: each throws only what the document names for it, and the same
  * calls give the same answers.
  */
 public final class RandomCallsTest {
@@ -11,8 +11,9 @@ public final class RandomCallsTest {
     private static final String LAYER_CHARACTERS = "abcdefgh0123456789<=!$#*()?>";
     private static final String FILTER_CHARACTERS = "abcdefgh0123$=<>~,|&!()";
     private static final String[] LAYER_TEXTS = {
-        "a8>a", "a4b4c8$*", "#*(a8?a<9(b4c4))>a", "a1b7c16<d4=2$b>c", "a8#a(b8#b(c3))$*", "a8b8!$*>b",
-        "a3?a=1(b16<!)?a<3($a)#*(c1)", "a24<b32<$a>b", "#*(#*(#*(a1)))>a", "a2$a?a=0(b6)$*>a"
+        "a8>a", "a4b4c8$*", "#*(a8?a<9(b4c4))>a", "a1b7c16<d4=2$b>c", "a8#a(b8#b(c3))$*",
+        "a8b8!$*>b", "a3?a=1(b16<!)?a<3($a)#*(c1)", "a24<b32<$a>b", "#*(#*(#*(a1)))>a",
+        "a2$a?a=0(b6)$*>a"
     };
     private static final String[] FILTER_TEXTS = {
         "0a", "0a=1,2,3", "!0a&1b|0$>1", "(0a~3|2c<9)&!3h", "!(!(0b)|!(0c))", "1a>5|1a<2&0$"
@@ -30,7 +31,8 @@ public final class RandomCallsTest {
         for (int run = 0; run < RUNS; run++) {
             long first = new RandomCallsTest(run).answersOfOneRun();
             if (run % 10 == 0) {
-                Checks.due("run " + run + " again", new RandomCallsTest(run).answersOfOneRun(), first);
+                long second = new RandomCallsTest(run).answersOfOneRun();
+                Checks.due("run " + run + " again", second, first);
             }
         }
         Checks.end();
