@@ -4,16 +4,26 @@ final class Checks {
 
     private static int done = 0;
     private static int wrong = 0;
+    private static String sentence = "";
 
     private Checks() {
+    }
+
+    /** The sentence of the document that the checks from here on are for. */
+    static void sentence(String quoted) {
+        sentence = "'" + quoted + "': ";
     }
 
     static void due(String what, long got, long want) {
         done++;
         if (got != want) {
-            wrong++;
-            System.out.println(what + " answered " + got + ", due is " + want);
+            tellWrong(what + " answered " + got + ", due is " + want);
         }
+    }
+
+    private static void tellWrong(String what) {
+        wrong++;
+        System.out.println(sentence + what);
     }
 
     /** The very class is asked for, so that no exception of the Java machine's own passes. */
@@ -28,8 +38,7 @@ final class Checks {
             }
             got = e.toString();
         }
-        wrong++;
-        System.out.println(what + " threw " + got + ", due is " + want.getName());
+        tellWrong(what + " threw " + got + ", due is " + want.getName());
     }
 
     static void dueIllegalArgument(String what, Runnable call) {
@@ -77,6 +86,22 @@ final class Checks {
         due("filter(" + filter + ") of " + text, bench.filter(filter), NONE);
     }
 
+    /** What layer() answers to a text; only a layer text empties the draft. */
+    static void dueLayerPlace(String text, int want) {
+        CaptureBench bench = new CaptureBench();
+        write(bench, text);
+        due("layer(0) of '" + text + "'", bench.layer(0), want);
+        due("draft behind '" + text + "'", bench.wipe(), want == NONE ? 0 : text.length());
+    }
+
+    /** What filter() answers to a text; only a filter text empties the draft. */
+    static void dueFilterPlace(String text, int want) {
+        CaptureBench bench = new CaptureBench();
+        write(bench, text);
+        due("filter(0) of '" + text + "'", bench.filter(0), want);
+        due("draft behind '" + text + "'", bench.wipe(), want == NONE ? 0 : text.length());
+    }
+
     static int addFrame(CaptureBench bench, int link, int time, int... bytes) {
         bench.wipe();
         write(bench, bytes);
@@ -91,6 +116,13 @@ final class Checks {
         return bench;
     }
 
+    /** The same with a frame on link 0. */
+    static CaptureBench decoded(String layerText, int... bytes) {
+        CaptureBench bench = benchWith(layerText);
+        addFrame(bench, 0, 0, bytes);
+        return bench;
+    }
+
     /** An entry's layer, name, first bit, bits and mark, and its value. */
     static void dueEntry(CaptureBench bench, int frame, int k, int[] facts, long value) {
         for (int what = 0; what < facts.length; what++) {
@@ -98,6 +130,29 @@ final class Checks {
                     facts[what]);
         }
         due("value(" + frame + ", " + k + ")", bench.value(frame, k), value);
+    }
+
+    /** All entries of frame 0, each with its layer, name, first bit, bits, mark and value. */
+    static void dueEntries(CaptureBench bench, long[]... want) {
+        dueEntriesOf(bench, 0, want);
+    }
+
+    static void dueEntriesOf(CaptureBench bench, int frame, long[]... want) {
+        due("decode(" + frame + ")", bench.decode(frame), want.length);
+        int shown = Math.min(want.length, bench.decode(frame));
+        for (int k = 0; k < shown; k++) {
+            for (int what = 0; what < 5; what++) {
+                due("entry(" + frame + ", " + k + ", " + what + ")",
+                        bench.entry(frame, k, what), want[k][what]);
+            }
+            due("value(" + frame + ", " + k + ")", bench.value(frame, k), want[k][5]);
+        }
+        dueOutOfBounds("the entry behind the last",
+                () -> bench.entry(frame, want.length, 0));
+    }
+
+    static long[] row(int layer, int name, int firstBit, int bits, int mark, long value) {
+        return new long[] {layer, name, firstBit, bits, mark, value};
     }
 
     static int[] facts(int layer, int name, int firstBit, int bits, int mark) {

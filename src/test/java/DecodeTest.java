@@ -31,9 +31,7 @@ public final class DecodeTest {
     }
 
     private static CaptureBench decoded(String text, int... bytes) {
-        CaptureBench bench = Checks.benchWith(text);
-        Checks.addFrame(bench, 0, 0, bytes);
-        return bench;
+        return Checks.decoded(text, bytes);
     }
 
     private static void fieldsTakeBits() {

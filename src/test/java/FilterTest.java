@@ -23,10 +23,7 @@ public final class FilterTest {
     }
 
     private static void place(String text, int want) {
-        CaptureBench bench = new CaptureBench();
-        Checks.write(bench, text);
-        Checks.due("filter(0) of '" + text + "'", bench.filter(0), want);
-        Checks.due("draft behind '" + text + "'", bench.wipe(), want == -1 ? 0 : text.length());
+        Checks.dueFilterPlace(text, want);
     }
 
     private static void goodTexts() {

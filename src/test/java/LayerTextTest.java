@@ -17,10 +17,7 @@ public final class LayerTextTest {
     }
 
     private static void place(String text, int want) {
-        CaptureBench bench = new CaptureBench();
-        Checks.write(bench, text);
-        Checks.due("layer(0) of '" + text + "'", bench.layer(0), want);
-        Checks.due("draft behind '" + text + "'", bench.wipe(), want == -1 ? 0 : text.length());
+        Checks.dueLayerPlace(text, want);
     }
 
     private static void good(String text) {

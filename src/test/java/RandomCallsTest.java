@@ -8,6 +8,8 @@ import java.util.Random;
 public final class RandomCallsTest {
     private static final int RUNS = 3000;
     private static final int CALLS = 512;
+    /** Of one row: wiping, writing five times at most, and the call itself. */
+    private static final int CALLS_OF_A_ROW = 7;
     private static final String LAYER_CHARACTERS = "abcdefgh0123456789<=!$#*()?>";
     private static final String FILTER_CHARACTERS = "abcdefgh0123$=<>~,|&!()";
     private static final String[] LAYER_TEXTS = {
@@ -22,6 +24,7 @@ public final class RandomCallsTest {
     private final Random random;
     private final CaptureBench bench = new CaptureBench();
     private long answers = 0;
+    private int calls = 0;
 
     private RandomCallsTest(long seed) {
         random = new Random(seed);
@@ -38,8 +41,14 @@ public final class RandomCallsTest {
         Checks.end();
     }
 
+    /** Counts the call, since nothing is promised of an object after its 512th one. */
+    private CaptureBench bench() {
+        calls++;
+        return bench;
+    }
+
     private long answersOfOneRun() {
-        for (int k = 0; k < CALLS; k++) {
+        while (calls + CALLS_OF_A_ROW <= CALLS) {
             call(random.nextInt(19));
         }
         return answers;
@@ -93,56 +102,67 @@ public final class RandomCallsTest {
 
     private long answerOf(int which) {
         switch (which) {
-            case 0: return bench.write(1 + number(8), random.nextLong());
-            case 1: return bench.wipe();
+            case 0: return bench().write(1 + number(8), random.nextLong());
+            case 1: return bench().wipe();
             case 2: return describe();
-            case 3: bench.root(number(2), number(4)); return 0;
-            case 4: bench.follow(number(4), number(5), number(5) - 1); return 0;
-            case 5: return bench.frame(number(2), number(50));
-            case 6: return random.nextInt(4) == 0 ? bench.drop(number(12)) : 0;
-            case 7: return bench.decode(number(12));
-            case 8: bench.limit(1 + number(64)); return 0;
-            case 9: return bench.entry(number(6), number(8), number(5));
-            case 10: return bench.value(number(6), number(8));
-            case 11: return bench.streamed(number(64));
+            case 3: bench().root(number(2), number(4)); return 0;
+            case 4: bench().follow(number(4), number(5), number(5) - 1); return 0;
+            case 5: return bench().frame(number(2), number(50));
+            case 6: return random.nextInt(4) == 0 ? bench().drop(number(12)) : 0;
+            case 7: return bench().decode(number(12));
+            case 8: bench().limit(1 + number(64)); return 0;
+            case 9: return bench().entry(number(6), number(8), number(5));
+            case 10: return bench().value(number(6), number(8));
+            case 11: return bench().streamed(number(64));
             case 12: return makeFilter();
-            case 13: return bench.next(number(4), number(12));
-            case 14: return bench.total(number(4), number(4), number(9), number(4));
-            case 15: return bench.talks(number(4), number(3), number(4), number(3));
-            case 16: return bench.talk(number(3), number(6));
-            case 17: return bench.stream(number(2), number(4), number(3));
+            case 13: return bench().next(number(4), number(12));
+            case 14: return bench().total(number(4), number(4), number(9), number(4));
+            case 15: return bench().talks(number(4), number(3), number(4), number(3));
+            case 16: return bench().talk(number(3), number(6));
+            case 17: return bench().stream(number(2), number(4), number(3));
             default: return fillFrame();
         }
     }
 
     private int describe() {
         writeText(LAYER_TEXTS, LAYER_CHARACTERS);
-        return bench.layer(number(4));
+        return bench().layer(number(4));
     }
 
     private int makeFilter() {
         writeText(FILTER_TEXTS, FILTER_CHARACTERS);
-        return bench.filter(number(4));
+        return bench().filter(number(4));
     }
 
     private int fillFrame() {
-        bench.wipe();
-        int bytes = 1 + random.nextInt(12);
-        for (int k = 0; k < bytes; k++) {
-            bench.write(1, random.nextInt(random.nextBoolean() ? 4 : 256));
+        bench().wipe();
+        StringBuilder bytes = new StringBuilder();
+        for (int k = random.nextInt(12); k >= 0; k--) {
+            bytes.append((char) random.nextInt(random.nextBoolean() ? 4 : 256));
         }
-        return bytes;
+        return write(bytes);
     }
 
     private void writeText(String[] texts, String characters) {
-        bench.wipe();
+        bench().wipe();
         StringBuilder text = new StringBuilder(texts[random.nextInt(texts.length)]);
         for (int k = random.nextInt(4) - 1; k > 0; k--) {
             text.insert(random.nextInt(text.length() + 1),
                     characters.charAt(random.nextInt(characters.length())));
         }
-        for (int k = 0; k < text.length(); k++) {
-            bench.write(1, text.charAt(k));
+        write(text);
+    }
+
+    private int write(CharSequence text) {
+        int size = 0;
+        for (int from = 0; from < text.length(); from += 8) {
+            int n = Math.min(8, text.length() - from);
+            long packed = 0;
+            for (int k = n - 1; k >= 0; k--) {
+                packed = packed << 8 | text.charAt(from + k);
+            }
+            size = bench().write(n, packed);
         }
+        return size;
     }
 }
