@@ -6,33 +6,36 @@ import java.lang.reflect.Modifier;
 import java.util.Arrays;
 import java.util.Set;
 import java.util.TreeSet;
+import java.util.stream.Collectors;
 
 /** The public face: what the document lists, and nothing that is visible beside it. */
 public final class FaceTest {
     private static final Set<String> FACE = Set.of(
-            "int write(int, long)",
-            "int wipe()",
-            "int layer(int)",
-            "void root(int, int)",
-            "void follow(int, int, int)",
-            "int frame(int, int)",
-            "int drop(int)",
-            "void limit(int)",
-            "int decode(int)",
-            "int entry(int, int, int)",
-            "long value(int, int)",
-            "int filter(int)",
-            "int next(int, int)",
-            "long total(int, int, int, int)",
-            "int talks(int, int, int, int)",
-            "long talk(int, int)",
-            "int stream(int, int, int)",
-            "int streamed(int)");
+            "int write(int, long) throws IllegalArgumentException",
+            "int wipe() throws ",
+            "int layer(int) throws IllegalArgumentException",
+            "void root(int, int) throws IllegalArgumentException",
+            "void follow(int, int, int) throws IllegalArgumentException, IllegalStateException",
+            "int frame(int, int) throws IllegalArgumentException, IllegalStateException",
+            "int drop(int) throws IndexOutOfBoundsException",
+            "void limit(int) throws IllegalArgumentException",
+            "int decode(int) throws IndexOutOfBoundsException",
+            "int entry(int, int, int) throws IndexOutOfBoundsException, IllegalArgumentException",
+            "long value(int, int) throws IndexOutOfBoundsException",
+            "int filter(int) throws IllegalArgumentException",
+            "int next(int, int) throws IllegalArgumentException, NoSuchElementException",
+            "long total(int, int, int, int) throws IllegalArgumentException, "
+                    + "NoSuchElementException",
+            "int talks(int, int, int, int) throws IllegalArgumentException",
+            "long talk(int, int) throws IndexOutOfBoundsException, IllegalArgumentException",
+            "int stream(int, int, int) throws IndexOutOfBoundsException, IllegalArgumentException",
+            "int streamed(int) throws ");
 
     public static void main(String[] args) {
         Class<?> bench = CaptureBench.class;
         dueTrue("the class is public and final",
                 Modifier.isPublic(bench.getModifiers()) && Modifier.isFinal(bench.getModifiers()));
+        Checks.due("NONE", CaptureBench.NONE, -1);
         methods(bench);
         for (Field field : bench.getDeclaredFields()) {
             boolean none = field.getName().equals("NONE") && Modifier.isStatic(field.getModifiers())
@@ -71,9 +74,13 @@ public final class FaceTest {
     }
 
     private static String signature(Method method) {
-        String parameters = Arrays.toString(method.getParameterTypes());
         return method.getReturnType() + " " + method.getName() + "("
-                + parameters.substring(1, parameters.length() - 1) + ")";
+                + names(method.getParameterTypes()) + ") throws "
+                + names(method.getExceptionTypes());
+    }
+
+    private static String names(Class<?>[] types) {
+        return Arrays.stream(types).map(Class::getSimpleName).collect(Collectors.joining(", "));
     }
 
     private static boolean isPrivate(Member member) {
